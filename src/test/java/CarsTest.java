@@ -221,6 +221,9 @@ public final class CarsTest {
         Expect.due("not known yet", x.owner(0, 6, 4), -1);
         Expect.due("ahead of made", x.owner(0, 1, 12), -1);
         Expect.due("of another car", x.owner(1, 6, 12), 3);
+        x.sell(1, 0, 6);
+        Expect.due("the other car sold", x.owner(1, 6, 12), 0);
+        Expect.due("the first car as it was", x.owner(0, 6, 12), 2);
         Expect.due("owner(2, 6, 12)", x.owner(2, 6, 12), -1);
         Expect.due("owner(-1, 6, 12)", x.owner(-1, 6, 12), -1);
         Expect.due("owner(0, 600, 12)", x.owner(0, 600, 12), -1);

@@ -183,7 +183,8 @@ public final class JuryAndSaversTest {
         x.saver(1, 10);
         x.saver(1, 10);
         Expect.due("first", x.overlap(0, 2, 5), 0);
-        Expect.due("the other way round", x.overlap(2, 0, 999), 5);
+        Expect.due("once more", x.overlap(0, 2, 4), 5);
+        Expect.due("the other way round", x.overlap(2, 0, 999), 4);
         Expect.due("of others", x.overlap(1, 2, 0), 0);
         Expect.due("both one", x.overlap(1, 1, 5), -1);
         Expect.due("saver 3", x.overlap(0, 3, 5), -1);

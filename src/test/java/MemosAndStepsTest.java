@@ -339,6 +339,11 @@ public final class MemosAndStepsTest {
         Expect.due("below nine times", x.cheap(1, 62), 6);
         Expect.due("nine times", x.cheap(1, 63), 599);
         Expect.due("never once", x.cheap(0, 20), -1);
+        TankBehind y = new TankBehind();
+        y.step(1, 0, 0, 7);
+        y.step(1, 0, 1, 7);
+        Expect.due("in month 0 alone", y.cheap(1, 7), 0);
+        Expect.due("in month 0 alone", y.cheap(0, 21), 0);
         Expect.due("for nothing", x.cheap(2, 0), 599);
         Expect.due("all coins", x.cheap(1, Integer.MAX_VALUE), 599);
         Expect.due("coins -1", x.cheap(2, -1), -2);

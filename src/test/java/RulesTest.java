@@ -191,6 +191,13 @@ public final class RulesTest {
         Expect.due("deaths known by 4", x.must(0, 2, 4), 3);
         Expect.due("deaths known by 6", x.must(0, 2, 6), 7);
         Expect.due("deaths of the other kind", x.must(1, 2, 6), 5);
+        TankBehind y = new TankBehind();
+        y.person(0);
+        y.kind(0, 0, 0, 0);
+        y.car(0, 0, 0);
+        Expect.tell(y, "crash 0 cars + 1", 0);
+        Expect.due("known in month 0 by 0", y.must(0, 0, 0), 2);
+        Expect.due("known in month 0 by 1", y.must(0, 0, 1), 2);
     }
 
     private static void fails() {
@@ -231,6 +238,19 @@ public final class RulesTest {
         Expect.due("kind -1", x.owed(-1, 0), -1);
         Expect.due("no month", x.owed(0, 600), -1);
         Expect.due("month -1", x.owed(0, -1), -1);
+        TankBehind y = new TankBehind();
+        y.person(0);
+        y.kind(0, 0, 0, 0);
+        Expect.tell(y, "recall if fires > 1 or cars > 2 or deaths > 8", 0);
+        y.car(0, 0, 0);
+        y.crash(0, 0, 0, 1, 8, true, false);
+        Expect.due("one car, one fire, 8 dead", y.owed(0, 0), 0);
+        y.crash(0, 0, 0, 1, 0, false, false);
+        Expect.due("and a crash that did not burn", y.owed(0, 0), 0);
+        y.clock(3);
+        y.crash(0, 0, 0, 1, 0, true, false);
+        Expect.due("a second fire", y.owed(0, 3), 1);
+        Expect.due("not known by 2", y.owed(0, 2), 0);
     }
 
     private static void refused(String text, int place, int code) {
@@ -252,6 +272,8 @@ public final class RulesTest {
         refused("giv 5", 0, 0);
         refused("Give 5", 0, 0);
         refused(" gives 5", 1, 0);
+        refused("givez 5", 0, 0);
+        refused("give 5\u0000", 6, 0);
         refused("5", 0, 0);
         refused("month", 0, 0);
         refused("if", 0, 0);
@@ -361,6 +383,14 @@ public final class RulesTest {
         refused("give 1" + repeat("+1", 79) + "+if", 165, 0);
         refused("give (1)" + repeat("+1", 79), 165, 3);
         taken("give (1)" + repeat("+1", 78));
+        TankBehind x = new TankBehind();
+        for (int i = 0; i < 9; i++) {
+            Expect.due("eighty each time", Expect.tell(x, "give 1" + repeat("+1", 79), 0), i);
+            Expect.due("a fault between", Expect.tell(x, "give 1" + repeat("+1", 79) + "?", 0), Expect.fault(164, 0));
+        }
+        x.kind(0, 0, 0, 0);
+        Expect.due("eighty once more", Expect.tell(x, "crash 0 2" + repeat("+2", 79), 0), 9);
+        Expect.due("their sum", x.must(0, 0, 0), 160);
         // 79 values of the sum and one ahead of the sign: the sign is one too many.
         refused("give 1" + repeat("+1", 78) + " if 1>=1", 167, 3);
         // 77 values of the sum, and one, its sign, and one.

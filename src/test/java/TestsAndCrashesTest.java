@@ -105,6 +105,20 @@ public final class TestsAndCrashesTest {
         Expect.due("another sort that did not", x.knew(0, 0, 1, 4, 1), -1);
         Expect.due("another kind", x.knew(0, 1, 0, 4, 0), 6);
         Expect.due("another person", x.knew(1, 0, 0, 4, 0), 0);
+        x.clock(6);
+        x.test(0, 2, 7, false);
+        x.test(0, 2, 3, false);
+        x.reads(7, 1);
+        x.reads(8, 1);
+        Expect.due("greatest ahead of its month", x.knew(1, 0, 2, 5, 1), -1);
+        Expect.due("greatest in its month", x.knew(1, 0, 2, 6, 1), 7);
+        Expect.due("least of those alone that burned", x.knew(1, 0, 2, 6, 0), -1);
+        TankBehind y = new TankBehind();
+        y.kind(0, 1, 1, 1);
+        y.person(0);
+        y.test(0, 0, 0, false);
+        y.reads(0, 0);
+        Expect.due("the only one read", y.knew(0, 0, 0, 0, 1), 0);
         Expect.due("no person", x.knew(2, 0, 0, 4, 0), -2);
         Expect.due("person -1", x.knew(-1, 0, 0, 4, 0), -2);
         Expect.due("no kind", x.knew(0, 2, 0, 4, 0), -2);
@@ -135,6 +149,24 @@ public final class TestsAndCrashesTest {
         x.clock(9);
         Expect.due("still that month", x.knewFails(0, 0, 0), 7);
         Expect.due("another person", x.knewFails(1, 0, 0), -1);
+        Expect.tell(x, "crash 0 200; crash 2 300", 9);
+        x.test(0, 2, 200, true);
+        Expect.due("nothing read", x.knewFails(1, 0, 2), -1);
+        x.reads(3, 1);
+        Expect.due("a test and must of 200", x.knewFails(1, 0, 2), 9);
+        TankBehind y = new TankBehind();
+        y.kind(0, 1, 1, 1);
+        y.person(0);
+        y.test(0, 0, 2, true);
+        y.reads(0, 0);
+        Expect.tell(y, "crash 0 2", 0);
+        Expect.due("in month 0", y.knewFails(0, 0, 0), 0);
+        Expect.tell(y, "crash 0 cars", 0);
+        y.car(0, 0, 0);
+        Expect.due("must by the cars", y.knewFails(0, 0, 0), -1);
+        y.clock(3);
+        y.car(0, 0, 0);
+        Expect.due("must by the cars known", y.knewFails(0, 0, 0), 3);
         Expect.due("no person", x.knewFails(2, 0, 0), -2);
         Expect.due("person -1", x.knewFails(-1, 0, 0), -2);
         Expect.due("no kind", x.knewFails(0, 1, 0), -2);
@@ -224,6 +256,12 @@ public final class TestsAndCrashesTest {
         Expect.due("crash -1", x.odd(-1), -1);
         x.factor(0, 50);
         Expect.due("with the factor as told last", x.odd(3), 1);
+        x.kind(0, 0, 0, 0);
+        x.car(1, 0, 0);
+        x.crash(1, 0, 1, 5, 0, true, false);
+        x.crash(0, 0, 1, 5, 0, true, false);
+        Expect.due("of a car of another kind", x.odd(4), 0);
+        Expect.due("of the first car", x.odd(5), 1);
     }
 
     private static void oddWithMending() {
@@ -296,8 +334,9 @@ public final class TestsAndCrashesTest {
         rate(x, 0, 3, "50 and above", 4, 1, 0, 4);
         x.crash(1, 0, 2, 99, 0, false, false);
         rate(x, 0, 3, "up to 99", 3, 1, 0, 4);
-        x.crash(1, 0, 2, 100, 0, false, false);
         x.crash(1, 0, 2, 200, 0, true, false);
+        rate(x, 0, 3, "100 and more", 5, 1, 0, 6);
+        x.crash(1, 0, 2, 100, 0, false, false);
         rate(x, 0, 3, "100 and more", 4, 1, 0, 6);
         x.crash(1, 0, 0, 100, 0, true, false);
         rate(x, 0, 3, "a stratum without its own", 4, 1, 0, 6);
