@@ -1709,9 +1709,8 @@ public final class TankBehind {
             bestCoins = 0;
             for (int set = 1; set < 1 << savers; set++) {
                 int cost = coinsOf(set);
-                int saved = livesOf(set);
-                boolean better = saved > bestLives || saved == bestLives && cost < bestCoins;
-                if (cost <= most && better) {
+                int saved = cost <= most ? livesOf(set) : NONE;
+                if (saved > bestLives || saved == bestLives && cost < bestCoins) {
                     bestLives = saved;
                     bestSet = set;
                     bestCoins = cost;
