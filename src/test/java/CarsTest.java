@@ -20,6 +20,8 @@ public final class CarsTest {
         forces();
         burning();
         burningWithParts();
+        bearingMost();
+        lastKindAndPart();
         Expect.finish("CarsTest");
     }
 
@@ -158,6 +160,23 @@ public final class CarsTest {
         Expect.due("a car too many", x.car(0, 0, 0), -1);
         Expect.due("cars", x.count(4), 300);
         Expect.due("made of the last", x.cars(299, 1), 4);
+        Expect.due("the last is owned", x.owner(299, 4, 4), 0);
+        x.part(0, 0, 0, 0);
+        x.call(0, 0, 599, 0);
+        Expect.due("letters to all", x.letters(0), 300);
+        Expect.due("the last reached", x.reached(0, 299), 1);
+        Expect.due("the last left", x.left(0, 299), 299);
+        Expect.due("none behind it", x.left(0, 300), -1);
+        Expect.due("car 300 is none", x.cars(300, 0), -1);
+        Expect.due("no owner of it", x.owner(300, 4, 4), -1);
+        Expect.due("it does not burn", x.burns(300, 4, 0, 1, -1), -1);
+        Expect.due("nor crash", x.crash(300, 4, 0, 1, 0, true, true), -1);
+        Expect.due("nor is it sold", x.sell(300, 0, 4), false);
+        Expect.due("nor reached", x.reached(0, 300), -1);
+        Expect.due("nor mended", x.mend(0, 300), false);
+        Expect.due("the last mended", x.mend(0, 299), true);
+        Expect.due("the last crashed", x.crash(299, 4, 0, 1, 0, true, true), 0);
+        Expect.due("the last not left", x.left(0, -1), 299);
     }
 
     private static void sales() {
@@ -229,6 +248,12 @@ public final class CarsTest {
         Expect.due("owner(0, 600, 12)", x.owner(0, 600, 12), -1);
         Expect.due("owner(0, 6, 600)", x.owner(0, 6, 600), -1);
         Expect.due("owner(0, 6, -1)", x.owner(0, 6, -1), -1);
+        Expect.due("owner(0, -1, 12)", x.owner(0, -1, 12), -1);
+        for (int car : new int[] {299, 300, Integer.MIN_VALUE, Integer.MAX_VALUE}) {
+            Expect.due("owner of car " + car, x.owner(car, 6, 12), -1);
+            Expect.due("cars(" + car + ", 0)", x.cars(car, 0), -1);
+            Expect.due("burns of car " + car, x.burns(car, 6, 0, 1, -1), -1);
+        }
     }
 
     private static void ownerSoldTwiceInAMonth() {
@@ -341,5 +366,68 @@ public final class CarsTest {
         Expect.due("mended with it again", x.mend(1, 0), true);
         Expect.due("still had from the first mending on", x.burns(0, 4, 0, 17, -1), 0);
         Expect.due("mended twice adds once", x.burns(0, 9, 0, 18, -1), 1);
+    }
+
+    /** The most and the least that a kind may bear and a part may add, told of each sort alone. */
+    private static void bearingMost() {
+        for (int sort = 0; sort < 3; sort++) {
+            TankBehind x = new TankBehind();
+            x.person(0);
+            for (int other = 0; other < 3; other++) {
+                x.factor(other, 999);
+            }
+            int all = 99999;
+            Expect.due("kind", x.kind(3, sort == 0 ? all : 0, sort == 1 ? all : 0, sort == 2 ? all : 0), 0);
+            int most = 9999;
+            Expect.due("part", x.part(9999, sort == 0 ? most : 0, sort == 1 ? most : 0, sort == 2 ? most : 0), 0);
+            x.car(0, 0, 0);
+            for (int asked = 0; asked < 3; asked++) {
+                boolean bears = asked == sort;
+                Expect.due("at 0", x.burns(0, 0, asked, 0, -1), 0);
+                Expect.due("at 1", x.burns(0, 0, asked, 1, -1), bears ? 0 : 1);
+                Expect.due("99900 at 100", x.burns(0, 0, asked, 100, -1), bears ? 0 : 1);
+                Expect.due("101907 at 101", x.burns(0, 0, asked, 101, -1), 1);
+                Expect.due("101907 at 101, with the part", x.burns(0, 0, asked, 101, 0), bears ? 0 : 1);
+                Expect.due("110139 at 105, with the part", x.burns(0, 0, asked, 105, 0), 1);
+                Expect.due("399600 at 200", x.burns(0, 0, asked, 200, 0), 1);
+            }
+        }
+        // Just as much as a kind with its part bears: 99999 and 9999, of which 109998 is the sum.
+        TankBehind y = new TankBehind();
+        y.person(0);
+        y.kind(0, 99999, 99999 - 1, 0);
+        y.part(0, 9999, 9999, 0);
+        y.car(0, 0, 0);
+        y.fit(0, 0, 0);
+        y.factor(0, 687);
+        y.factor(1, 275);
+        Expect.due("force 109920", y.force(0, 126) * 1000L + y.burns(0, 0, 0, 126, -1), 109068000);
+        Expect.due("force 110000 above 109998", y.force(1, 200) * 1000L + y.burns(0, 0, 1, 200, -1), 110000001);
+        y.factor(0, 275);
+        Expect.due("force 110000 above 109998 of the other", y.burns(0, 0, 0, 200, -1), 1);
+        y.factor(0, 274);
+        Expect.due("force 109600 not above it", y.burns(0, 0, 0, 200, -1), 0);
+    }
+
+    private static void lastKindAndPart() {
+        TankBehind x = new TankBehind();
+        x.person(0);
+        for (int i = 0; i < 8; i++) {
+            x.kind(0, 0, 0, 0);
+        }
+        for (int i = 0; i < 12; i++) {
+            x.part(0, 100, 0, 0);
+        }
+        Expect.due("the last part in the last kind", x.fit(7, 11, 599), true);
+        Expect.due("from month 0 on", x.fit(7, 11, 0), true);
+        Expect.due("a car of the last kind", x.car(7, 0, 0), 0);
+        Expect.due("its parts", x.cars(0, 3), 1 << 11);
+        Expect.due("the first part", x.fit(7, 0, 0), true);
+        Expect.due("its parts", x.cars(0, 3), 1 << 11 | 1);
+        Expect.due("with the last part more", x.burns(0, 0, 0, 15, 11), 1);
+        Expect.due("with part 10 more", x.burns(0, 0, 0, 15, 10), 0);
+        Expect.due("part 12", x.burns(0, 0, 0, 15, 12), -1);
+        Expect.due("kind 8", x.fit(8, 0, 0), false);
+        Expect.due("part 12", x.fit(0, 12, 0), false);
     }
 }

@@ -11,6 +11,8 @@ public final class JuryAndSaversTest {
         juryKnewOthers();
         juryPart();
         juryPartWithMending();
+        juryAtItsEdges();
+        juryAndTheFirst();
         savers();
         overlaps();
         best();
@@ -161,6 +163,61 @@ public final class JuryAndSaversTest {
         Expect.due("mended by then", x.jury(1), 40);
     }
 
+    private static void juryAtItsEdges() {
+        Expect.due("give 0", given(court(), "give 0"), 0);
+        Expect.due("give 1", given(court(), "give 1"), 1);
+        Expect.due("just most", given(court(), "give 8; most 8"), 8);
+        Expect.due("most 0", given(court(), "give 8; most 0"), 0);
+        Expect.due("most 1", given(court(), "give 8; most 1"), 1);
+        Expect.due("both below 0", given(court(), "give 0-8; most 0-9"), 0);
+        Expect.due("most alone", given(court(), "most 9"), 0);
+        Expect.due("2 to the 62nd", given(court(), "give 65536*65536*65536*16384"), 1L << 62);
+        Expect.due("one less than 2 to the 63rd", given(court(), "give 65536*65536*65536*32768-1"), Long.MAX_VALUE);
+        Expect.due("2 to the 63rd goes round below 0", given(court(), "give 65536*65536*65536*32768"), 0);
+        Expect.due("most of 2 to the 63rd is 0", given(court(), "give 5; most 65536*65536*65536*32768"), 0);
+        TankBehind x = court();
+        for (int n : new int[] {-1, 1, 200, Integer.MIN_VALUE, Integer.MAX_VALUE}) {
+            Expect.due("jury(" + n + ")", x.jury(n), -1);
+        }
+        Expect.tell(x, "give 7", 6);
+        Expect.tell(x, "give 8", 7);
+        Expect.due("the rule of now", x.jury(0), 7);
+        x.clock(7);
+        Expect.due("the rule of now", x.jury(0), 8);
+        x.clock(599);
+        Expect.due("in the last month", given(x, "give month"), 599);
+    }
+
+    /** Person 0 is of another firm, part 0 the cheapest, and car 0 not the one that crashed. */
+    private static void juryAndTheFirst() {
+        TankBehind x = new TankBehind();
+        x.person(0);
+        x.person(1);
+        x.person(-1);
+        x.kind(0, 0, 0, 0);
+        x.kind(1, 0, 0, 0);
+        x.part(1, 99, 9999, 9999);
+        x.part(4, 9999, 9999, 9999);
+        x.part(3, 101, 9999, 9999);
+        x.part(5, 100, 9999, 9999);
+        x.car(0, 0, 0);
+        x.car(1, 0, 0);
+        x.test(1, 0, 9, true);
+        Expect.tell(x, "crash 0 9; give knew*1000+part; most 9999", 0);
+        x.reads(0, 0);
+        x.reads(0, 2);
+        x.crash(1, 0, 0, 10, 0, true, false);
+        Expect.due("none of its firm knew, the third part", x.jury(0), 3);
+        x.reads(0, 1);
+        Expect.due("one of its firm knew", x.jury(0), 1003);
+        x.part(2, 100, 0, 0);
+        Expect.due("just as much as the force", x.jury(0), 1002);
+        x.crash(0, 0, 0, 10, 0, true, false);
+        Expect.due("of the other kind and firm", x.jury(1), 2);
+        x.crash(1, 0, 1, 10, 0, true, false);
+        Expect.due("the first part, of another sort", x.jury(2), 1);
+    }
+
     private static void savers() {
         TankBehind x = new TankBehind();
         Expect.due("coins -1", x.saver(-1, 0), -1);
@@ -214,6 +271,8 @@ public final class JuryAndSaversTest {
         Expect.due("one coin less", x.best(17), 5);
         Expect.due("its set", x.bests(0), 4);
         Expect.due("best(1000000)", x.best(1000000), -1);
+        Expect.due("best of the least number", x.best(Integer.MIN_VALUE), -1);
+        Expect.due("best of the greatest number", x.best(Integer.MAX_VALUE), -1);
         Expect.due("still the last", x.bests(0), 4);
         Expect.due("another what", x.bests(2), -1);
         Expect.due("what -1", x.bests(-1), -1);

@@ -8,6 +8,7 @@ public final class MemosAndStepsTest {
     public static void main(String[] args) {
         memos();
         rows();
+        allRows();
         sums();
         turns();
         turnsByTrial();
@@ -54,6 +55,34 @@ public final class MemosAndStepsTest {
         Expect.due("a row too many", x.row(0, true, 1, 1), -1);
         Expect.due("a row of another memo", x.row(1, false, 0, 0), 0);
         Expect.due("sum", x.memoSum(0), 0);
+        Expect.due("the least count", x.row(1, true, 0, 9999999), 1);
+        Expect.due("the least coins", x.row(1, true, 999999, 0), 2);
+        Expect.due("nothing yet", x.memoSum(1), 0);
+        Expect.due("the most of both", x.row(1, true, 999999, 9999999), 3);
+        Expect.due("their product", x.memoSum(1), 9999989000001L);
+    }
+
+    /** Each of all rows is its memo's alone. */
+    private static void allRows() {
+        TankBehind x = new TankBehind();
+        x.person(0);
+        for (int memo = 0; memo < 20; memo++) {
+            x.memo(0);
+        }
+        for (int row = 0; row < 6; row++) {
+            for (int memo = 0; memo < 20; memo++) {
+                Expect.due("row of memo " + memo, x.row(memo, row % 2 == 0, memo + 1, 10 - row), row);
+            }
+        }
+        for (int memo = 0; memo < 20; memo++) {
+            // 10 - 9 + 8 - 7 + 6 - 5 is 3; without row 0 it is 7 below 0.
+            Expect.due("sum of memo " + memo, x.memoSum(memo), 3L * (memo + 1));
+            Expect.due("turn of memo " + memo, x.turnsAt(memo, 0, 1), 7);
+            Expect.due("turn of its last row", x.turnsAt(memo, 5, 1), 8);
+            Expect.due("a row too many", x.row(memo, true, 1, 1), -1);
+            Expect.due("beside the next", memo == 19 ? 57 : x.beside(memo, memo + 1, 63), memo == 19 ? 57 : 3 * (memo + 1));
+            Expect.due("row 6", x.turnsAt(memo, 6, 0), -2);
+        }
     }
 
     private static void sums() {
@@ -109,6 +138,27 @@ public final class MemosAndStepsTest {
         x.row(2, true, 0, 1);
         x.row(2, false, 999999, 9999999);
         Expect.due("above what a row may hold", x.turnsAt(2, 0, 0), 999999L * 9999999L + 1L);
+        x.memo(0);
+        x.row(3, false, 3, 0);
+        Expect.due("none with 0 coins", x.turnsAt(3, 0, 0), -1);
+        Expect.due("coins of a paid row at 0", x.turnsAt(3, 0, 1), -1);
+        x.row(3, true, 0, 0);
+        Expect.due("none of 0 and 0", x.turnsAt(3, 1, 0), -1);
+        Expect.due("none of 0 and 0, coins", x.turnsAt(3, 1, 1), -1);
+        x.row(3, true, 1, 7);
+        Expect.due("paid coins up to the sum", x.turnsAt(3, 0, 1), 3);
+        Expect.due("saved down to 0", x.turnsAt(3, 2, 1), 0);
+        for (int n : new int[] {-1, 6, 20, Integer.MIN_VALUE, Integer.MAX_VALUE}) {
+            Expect.due("turnsAt(" + n + ", 0, 0)", x.turnsAt(n, 0, 0), -2);
+            Expect.due("turnsAt(0, " + n + ", 0)", x.turnsAt(0, n, 0), -2);
+            Expect.due("turnsAt(0, 0, " + n + ")", x.turnsAt(0, 0, n), -2);
+            Expect.due("memoSum(" + n + ")", x.memoSum(n), WITHOUT);
+            Expect.due("beside(" + n + ", 0, 0)", x.beside(n, 0, 0), WITHOUT);
+            Expect.due("beside(0, " + n + ", 0)", x.beside(0, n, 0), WITHOUT);
+        }
+        for (int rows : new int[] {-1, 64, 128, Integer.MIN_VALUE, Integer.MAX_VALUE}) {
+            Expect.due("beside(0, 1, " + rows + ")", x.beside(0, 1, rows), WITHOUT);
+        }
     }
 
     private static TankBehind memoOf(int[] counts, int[] coins, int signs) {
@@ -349,6 +399,39 @@ public final class MemosAndStepsTest {
         Expect.due("coins -1", x.cheap(2, -1), -2);
         Expect.due("step 3", x.cheap(3, 0), -2);
         Expect.due("step -1", x.cheap(-1, 0), -2);
+        TankBehind z = new TankBehind();
+        Expect.due("0 months, no coins", z.step(0, -1, 0, 0), 0);
+        Expect.due("99 months, all coins", z.step(99, 3, 1, 9999), 1);
+        Expect.due("once", z.change(0, 0), 0);
+        Expect.due("begun in month 0", z.change(1, 0), 29997);
+        Expect.due("in the last month ahead of its end", z.change(1, 98), 29997);
+        Expect.due("in its end", z.change(1, 99), 89991);
+        Expect.due("below nine times", z.cheap(1, 89990), 98);
+        Expect.due("nine times", z.cheap(1, 89991), 599);
+        for (int i = 2; i < 8; i++) {
+            z.step(99, 0, 1 << i - 1, 10);
+        }
+        Expect.due("begins in 594", z.steps(7, 0), 594);
+        Expect.due("not begun in 593", z.change(7, 593), 10);
+        Expect.due("begun in 594", z.change(7, 594), 30);
+        Expect.due("not ended in 599", z.change(7, 599), 30);
+        Expect.due("thrice up to the last month", z.cheap(7, 30), 599);
+        Expect.due("once up to 593", z.cheap(7, 29), 593);
+        z.step(99, 0, 128, 10);
+        Expect.due("never begun in a month", z.cheap(8, 10), 599);
+        Expect.due("below once", z.cheap(8, 9), -1);
+        for (int n : new int[] {-1, 9, 24, Integer.MIN_VALUE, Integer.MAX_VALUE}) {
+            Expect.due("steps(" + n + ", 0)", z.steps(n, 0), -2);
+            Expect.due("steps(" + n + ", 2)", z.steps(n, 2), -2);
+            Expect.due("steps(0, " + n + ")", z.steps(0, n), -2);
+            Expect.due("putOff(" + n + ")", z.putOff(n), -1);
+            Expect.due("change(" + n + ", 0)", z.change(n, 0), -1);
+            Expect.due("cheap(" + n + ", 0)", z.cheap(n, 0), -2);
+        }
+        for (int n : new int[] {-1, 600, Integer.MIN_VALUE, Integer.MAX_VALUE}) {
+            Expect.due("change(0, " + n + ")", z.change(0, n), -1);
+        }
+        Expect.due("coins below all", z.cheap(0, Integer.MIN_VALUE), -2);
     }
 
     private static void cheapByTrial() {

@@ -13,6 +13,8 @@ public final class RecallsTest {
         left();
         twoCalls();
         moves();
+        calledAtTheEdges();
+        anyNumbers();
         Expect.finish("RecallsTest");
     }
 
@@ -187,5 +189,58 @@ public final class RecallsTest {
         Expect.due("found", x.moves(0, false), true);
         Expect.due("found again", x.moves(0, false), false);
         Expect.due("moves once more", x.moves(0, true), true);
+    }
+
+    /** Cars made in each month of a to b, in no other. */
+    private static void calledAtTheEdges() {
+        TankBehind x = new TankBehind();
+        x.person(0);
+        x.kind(0, 0, 0, 0);
+        x.part(0, 0, 0, 0);
+        x.clock(599);
+        for (int made : new int[] {0, 1, 2, 598, 599}) {
+            x.car(0, made, 0);
+        }
+        int[][] months = {{0, 0, 1}, {0, 1, 2}, {1, 1, 1}, {1, 598, 3}, {2, 599, 3}, {599, 599, 1}, {0, 599, 5}, {3, 597, 0}};
+        for (int call = 0; call < months.length; call++) {
+            String name = "call from " + months[call][0] + " to " + months[call][1];
+            Expect.due(name, x.call(0, months[call][0], months[call][1], 0), call);
+            Expect.due(name + " has", x.left(call, -1), months[call][2]);
+            Expect.due(name + " reaches", x.letters(call), months[call][2]);
+            Expect.due(name + " leaves no more", x.left(call, months[call][2]), -1);
+        }
+        Expect.due("made in a", x.reached(1, 0), 1);
+        Expect.due("made in b", x.reached(1, 1), 1);
+        Expect.due("made behind b", x.reached(1, 2), -1);
+        Expect.due("made ahead of a", x.reached(4, 1), -1);
+        Expect.due("none of it is not mended", x.mend(1, 2), false);
+        Expect.due("a behind b", x.call(0, 1, 0, 0), -1);
+    }
+
+    private static void anyNumbers() {
+        TankBehind x = yard();
+        x.call(0, 0, 5, 0);
+        x.letters(0);
+        for (int n : new int[] {-1, 1, 20, 31, 32, 64, Integer.MIN_VALUE, Integer.MAX_VALUE}) {
+            Expect.due("letters(" + n + ")", x.letters(n), -1);
+            Expect.due("reached(" + n + ", 0)", x.reached(n, 0), -1);
+            Expect.due("mend(" + n + ", 0)", x.mend(n, 0), false);
+            Expect.due("left(" + n + ", 0)", x.left(n, 0), -1);
+            Expect.due("left(" + n + ", -1)", x.left(n, -1), -1);
+        }
+        for (int n : new int[] {-2, 4, 299, 300, Integer.MIN_VALUE, Integer.MAX_VALUE}) {
+            Expect.due("reached(0, " + n + ")", x.reached(0, n), -1);
+            Expect.due("mend(0, " + n + ")", x.mend(0, n), false);
+            Expect.due("left(0, " + n + ")", x.left(0, n), -1);
+        }
+        Expect.due("it was reached all the while", x.mend(0, 0), true);
+        TankBehind y = yard();
+        for (int i = 0; i < 20; i++) {
+            y.call(0, 0, 5, 1);
+        }
+        Expect.due("letters of the last call", y.letters(19), 3);
+        Expect.due("mended by the last call", y.mend(19, 2), true);
+        Expect.due("left by it", y.left(19, -1), 2);
+        Expect.due("left by the first", y.left(0, -1), 3);
     }
 }

@@ -1,3 +1,5 @@
+import java.util.List;
+
 /** Promises 14 to 20: the tape, rules and their faults, which is in force, must, fails and owed. */
 public final class RulesTest {
     private RulesTest() {
@@ -18,6 +20,12 @@ public final class RulesTest {
         faultsOfDepth();
         faultsOfCount();
         faultsOfClauses();
+        faultsAheadOfOthers();
+        whatMayStand();
+        bytesBehindTheEnd();
+        fullTapes();
+        mustAtItsEdges();
+        signsWithNot();
         Expect.finish("RulesTest");
     }
 
@@ -412,5 +420,232 @@ public final class RulesTest {
         refused(twelve + "; 5", 85, 0);
         refused(twelve + "; if", 85, 0);
         refused(twelve + "?", 83, 0);
+    }
+
+    /** The first fault along the text counts, whatever stands behind it. */
+    private static void faultsAheadOfOthers() {
+        refused("give ?; ?", 5, 0);
+        refused("give 5 * ; ?", 9, 0);
+        refused("give 5 + ; give 123456", 9, 0);
+        refused("give (; ?", 6, 0);
+        refused("give (1; ?", 7, 0);
+        refused("give 123456; ?", 5, 1);
+        refused("crash 3 5; ?", 6, 1);
+        refused("crash 1; ?", 7, 0);
+        refused("give 1 if; ?", 9, 0);
+        refused("give 1 if 1; ?", 11, 0);
+        refused("give 1 if 1=; ?", 12, 0);
+        refused("give 1 if 1=1 or; ?", 16, 0);
+        refused("give 1 if 1=1 and; ?", 17, 0);
+        refused("give 1 if not; ?", 13, 0);
+        refused("give 1 if [; ?", 11, 0);
+        refused("give 1 if [1=1; ?", 14, 0);
+        refused("give 1 if [1=1 or; ?", 17, 0);
+        refused("give 1 if not not 1; ?", 19, 0);
+        refused("recall; ?", 6, 0);
+        refused("recall if; ?", 9, 0);
+        refused("give " + repeat("(", 11) + "; ?", 15, 2);
+        refused("give 1 if " + repeat("not ", 11) + "; ?", 50, 2);
+        refused("give 1" + repeat("+1", 80) + "; ?", 165, 3);
+        refused("give 1" + repeat("+1", 80) + "+123456", 165, 3);
+        refused("give 1 if 1=1; give ? ; give 1 if ?", 20, 0);
+        refused(repeat("give 1;", 12) + "give ?", 84, 4);
+    }
+
+    private static final String VALUES = "month kind firm made cars fires deaths dead speed sort knew part 7 00000 99999";
+    private static final String THINGS = "crash give most recall";
+    private static final String SIGNS = "+ - * < <= = >= > ( ) [ ] ; if or and not";
+    private static final String OTHERS = "foo months mont i an o no recal gives crashes == => << ! # , . : / \\ { } A Z month1 $";
+
+    /** Behind each of these every piece of the language is put, and every byte: only those named may stand there. */
+    private static void whatMayStand() {
+        String value = VALUES + " (";
+        String fact = value + " [ not";
+        mayStand("", THINGS);
+        mayStand(" ", THINGS);
+        mayStand("give 1;", THINGS);
+        mayStand("recall if 1=1 ;", THINGS);
+        mayStand("crash", "00000 7 99999");
+        mayStand("give", value);
+        mayStand("most", value);
+        mayStand("crash 00002", value);
+        mayStand("give (", value);
+        mayStand("give 1+", value);
+        mayStand("give 1-", value);
+        mayStand("give month*", value);
+        mayStand("recall if 1<", value);
+        mayStand("recall if 1<=", value);
+        mayStand("recall if 1=", value);
+        mayStand("recall if 1>=", value);
+        mayStand("recall if 1>", value);
+        mayStand("recall if", fact);
+        mayStand("give 1 if", fact);
+        mayStand("give 1 if not", fact);
+        mayStand("give 1 if [", fact);
+        mayStand("give 1 if 1=1 and", fact);
+        mayStand("give 1 if 1=1 or", fact);
+        mayStand("give 1", "+ - * if ;");
+        mayStand("give (1)", "+ - * if ;");
+        mayStand("crash 1 month", "+ - * if ;");
+        mayStand("give (1", "+ - * )");
+        mayStand("give ((1)", "+ - * )");
+        mayStand("give 1 if 1", "+ - * < <= = >= >");
+        mayStand("give 1 if (1)", "+ - * < <= = >= >");
+        mayStand("give 1 if (1", "+ - * )");
+        mayStand("give 1 if 1=1", "+ - * and or ;");
+        mayStand("give 1 if not 1=1", "+ - * and or ;");
+        mayStand("give 1 if [1=1", "+ - * and or ]");
+        mayStand("give 1 if [1=(1)", "+ - * and or ]");
+        mayStand("give 1 if [not 1=1", "+ - * and or ]");
+        mayStand("give 1 if [1=1]", "and or ;");
+        mayStand("give 1 if not [1=1]", "and or ;");
+        mayStand("give 1 if [[1=1]", "and or ]");
+        mayStand("recall", "if");
+    }
+
+    private static void mayStand(String before, String pieces) {
+        List<String> may = List.of(pieces.split(" "));
+        for (String piece : (VALUES + " " + THINGS + " " + SIGNS + " " + OTHERS).split(" ")) {
+            // What a word or number holds ahead of what can't stand may stand.
+            String first = piece.equals("month1") ? "month" : piece.equals("==") || piece.equals("=>") ? "="
+                : piece.equals("<<") ? "<" : piece;
+            mayStand(before, piece, may.contains(first));
+        }
+        for (int sign = 0; sign < 256; sign++) {
+            boolean digit = sign >= '0' && sign <= '9';
+            boolean begins = digit ? may.contains("00000") : may.contains(String.valueOf((char) sign));
+            if (sign != ' ') {
+                mayStand(before, String.valueOf((char) sign), begins);
+            }
+        }
+    }
+
+    private static void mayStand(String before, String piece, boolean may) {
+        String text = before + " " + piece;
+        int place = before.length() + 1;
+        TankBehind x = new TankBehind();
+        int answer = Expect.tell(x, text, 0);
+        if (!may) {
+            Expect.due("rule \"" + text + "\"", answer, Expect.fault(place, 0));
+        } else if (answer < 0) {
+            // A number may stand after crash and be no sort; all else is at fault behind the piece.
+            boolean noSort = before.equals("crash") && answer == Expect.fault(place, 1);
+            Expect.due("rule \"" + text + "\" is not at fault there", noSort || answer <= Expect.fault(place + 1, 0), true);
+        }
+    }
+
+    private static int ruleOfCut(String text, int length) {
+        TankBehind x = new TankBehind();
+        Expect.write(x, text);
+        Expect.due("end of \"" + text + "\"", x.end(length), length);
+        return x.rule(0);
+    }
+
+    /** What stood behind the bytes that the tape has is no more. */
+    private static void bytesBehindTheEnd() {
+        Expect.due("digits cut", ruleOfCut("give 123456", 10), 0);
+        Expect.due("a word cut", ruleOfCut("give month", 8), Expect.fault(5, 0));
+        Expect.due("a word cut to none", ruleOfCut("give month", 5), Expect.fault(5, 0));
+        Expect.due("blanks cut", ruleOfCut("give      5", 6), Expect.fault(6, 0));
+        Expect.due("a sign cut", ruleOfCut("give 5 if 1<=1", 12), Expect.fault(12, 0));
+        Expect.due("a bracket cut", ruleOfCut("give (5)", 7), Expect.fault(7, 0));
+        Expect.due("a fault cut", ruleOfCut("give 5?", 6), 0);
+        Expect.due("a clause cut", ruleOfCut("give 5;give 5", 6), 0);
+        Expect.due("all but ; cut", ruleOfCut("give 5;give 5", 7), Expect.fault(7, 0));
+        TankBehind x = new TankBehind();
+        x.kind(0, 0, 0, 0);
+        Expect.write(x, "crash 0 123");
+        x.end(9);
+        x.rule(0);
+        Expect.due("one digit of three", x.must(0, 0, 0), 1);
+        Expect.write(x, "crash 0 12");
+        x.end(9);
+        Expect.write(x, "5");
+        x.rule(0);
+        Expect.due("another digit behind it", x.must(0, 0, 0), 15);
+        Expect.tell(x, "crash 0 7 + month + month", 0);
+        Expect.due("behind a longer rule", Expect.tell(x, "crash 0 6", 0), 3);
+        Expect.due("of the shorter one", x.must(0, 0, 5), 6);
+        Expect.due("cut to none", ruleOfCut("give 5", 0), Expect.fault(0, 0));
+    }
+
+    private static void fullTapes() {
+        taken("give 5" + repeat(" ", 394));
+        taken(repeat(" ", 394) + "give 5");
+        taken(repeat(" ", 389) + "give month ");
+        taken(repeat(" ", 388) + "give (month)");
+        taken(repeat(" ", 385) + "give 1 if 1<=12");
+        refused(repeat(" ", 400), 400, 0);
+        refused(repeat(" ", 399) + "?", 399, 0);
+        refused(repeat(" ", 396) + "give", 400, 0);
+        refused(repeat(" ", 395) + "crash", 400, 0);
+        refused(repeat(" ", 394) + "recall", 400, 0);
+        refused(repeat(" ", 393) + "give 5;", 400, 0);
+        refused(repeat(" ", 393) + "give 5+", 400, 0);
+        refused(repeat(" ", 388) + "give 1 if 1<", 400, 0);
+        refused(repeat(" ", 387) + "give 1 if 1<=", 400, 0);
+        refused(repeat(" ", 387) + "give 1 if not", 400, 0);
+        refused(repeat(" ", 389) + "give 123456", 394, 1);
+        refused(repeat(" ", 395) + "givex", 395, 0);
+        refused(repeat("?", 400), 0, 0);
+    }
+
+    private static void mustAtItsEdges() {
+        Expect.due("-1 is held to 0", sum("0-1"), 0);
+        Expect.due("0", sum("0"), 0);
+        Expect.due("1", sum("1"), 1);
+        Expect.due("199", sum("199"), 199);
+        Expect.due("200", sum("200"), 200);
+        Expect.due("201 is held to 200", sum("201"), 200);
+        Expect.due("2 to the 32nd is held to 200", sum("65536*65536"), 200);
+        Expect.due("2 to the 32nd and 7 is held to 200", sum("65536*65536+7"), 200);
+        Expect.due("-2 to the 32nd and 7 is held to 0", sum("0-65536*65536+7"), 0);
+        Expect.due("2 to the 63rd goes round", sum("65536*65536*65536*32768"), 0);
+        Expect.due("one less is held to 200", sum("65536*65536*65536*32768-1"), 200);
+        TankBehind x = new TankBehind();
+        for (int i = 0; i < 8; i++) {
+            x.kind(i % 4, 0, 0, 0);
+        }
+        Expect.tell(x, "crash 2 kind; crash 0 month - 570", 0);
+        Expect.due("of the last kind and sort", x.must(7, 2, 0), 7);
+        Expect.due("of the last month", x.must(0, 0, 599), 29);
+        Expect.due("of month 0", x.must(0, 0, 0), 0);
+        Expect.due("none of sort 1", x.must(0, 1, 599), -1);
+        int[] none = {-1, 600, Integer.MIN_VALUE, Integer.MAX_VALUE};
+        for (int n : none) {
+            Expect.due("must(" + n + ", 0, 0)", x.must(n, 0, 0), -2);
+            Expect.due("must(0, " + n + ", 0)", x.must(0, n, 0), -2);
+            Expect.due("must(0, 0, " + n + ")", x.must(0, 0, n), -2);
+            Expect.due("fails(" + n + ", 0, 0)", x.fails(n, 0, 0), -1);
+            Expect.due("fails(0, " + n + ", 0)", x.fails(0, n, 0), -1);
+            Expect.due("fails(0, 0, " + n + ")", x.fails(0, 0, n), -1);
+            Expect.due("owed(" + n + ", 0)", x.owed(n, 0), -1);
+            Expect.due("owed(0, " + n + ")", x.owed(0, n), -1);
+            Expect.due("inForce(" + n + ")", x.inForce(n), -1);
+        }
+        Expect.due("kind 8", x.must(8, 0, 0), -2);
+        Expect.due("fails at 29 that bears nothing", x.fails(0, 0, 599), 1);
+        Expect.due("fails at 0", x.fails(0, 0, 0), 0);
+    }
+
+    /** Each sign on both sides of what it tells, alone, denied, and beside one that is true or not. */
+    private static void signsWithNot() {
+        String[] signs = {"<", "<=", "=", ">=", ">"};
+        for (int a = 2; a <= 4; a++) {
+            for (int i = 0; i < 5; i++) {
+                boolean is = i == 0 ? a < 3 : i == 1 ? a <= 3 : i == 2 ? a == 3 : i == 3 ? a >= 3 : a > 3;
+                String fact = a + signs[i] + "3";
+                Expect.due(fact, test(fact), is ? 1 : 0);
+                Expect.due("not " + fact, test("not " + fact), is ? 0 : 1);
+                Expect.due("not not " + fact, test("not not " + fact), is ? 1 : 0);
+                Expect.due("not [" + fact + "]", test("not [" + fact + "]"), is ? 0 : 1);
+                for (String other : signs) {
+                    String pair = " 1" + other + "1";
+                    boolean both = other.indexOf('=') >= 0;
+                    Expect.due(fact + " and" + pair, test(fact + " and" + pair), is && both ? 1 : 0);
+                    Expect.due(fact + " or" + pair, test(fact + " or" + pair), is || both ? 1 : 0);
+                }
+            }
+        }
     }
 }

@@ -10,7 +10,9 @@ public final class TestsAndCrashesTest {
         knew();
         knewFails();
         knewFailsMonthByMonth();
+        knewFailsAtTheEdges();
         crashes();
+        crashesAtTheEdges();
         crashesOfACar();
         odd();
         oddWithMending();
@@ -113,10 +115,18 @@ public final class TestsAndCrashesTest {
         Expect.due("greatest ahead of its month", x.knew(1, 0, 2, 5, 1), -1);
         Expect.due("greatest in its month", x.knew(1, 0, 2, 6, 1), 7);
         Expect.due("least of those alone that burned", x.knew(1, 0, 2, 6, 0), -1);
+        Expect.due("what another read that did not burn", x.knew(0, 0, 2, 6, 1), -1);
+        x.test(0, 1, 8, false);
+        x.reads(9, 1);
+        x.test(1, 2, 9, false);
+        x.reads(10, 1);
+        Expect.due("greatest of its sort alone", x.knew(1, 0, 1, 6, 1), 8);
+        Expect.due("greatest of its kind alone", x.knew(1, 0, 2, 6, 1), 7);
         TankBehind y = new TankBehind();
         y.kind(0, 1, 1, 1);
         y.person(0);
         y.test(0, 0, 0, false);
+        Expect.due("the only one, not read", y.knew(0, 0, 0, 0, 1), -1);
         y.reads(0, 0);
         Expect.due("the only one read", y.knew(0, 0, 0, 0, 1), 0);
         Expect.due("no person", x.knew(2, 0, 0, 4, 0), -2);
@@ -173,6 +183,44 @@ public final class TestsAndCrashesTest {
         Expect.due("no sort", x.knewFails(0, 0, 3), -2);
     }
 
+    /** A speed not above must: 0 is not above 0, 200 not above 200; without must there is nothing to know. */
+    private static void knewFailsAtTheEdges() {
+        for (int speed : new int[] {0, 1, 199, 200}) {
+            for (int must = Math.max(0, speed - 1); must <= Math.min(200, speed + 1); must++) {
+                TankBehind x = new TankBehind();
+                x.kind(0, 1, 1, 1);
+                x.person(-1);
+                x.test(0, 2, speed, true);
+                x.reads(0, 0);
+                Expect.due("without must", x.knewFails(0, 0, 2), -1);
+                Expect.tell(x, "crash 2 " + must, 0);
+                Expect.due(speed + " by " + must, x.knewFails(0, 0, 2), speed <= must ? 0 : -1);
+            }
+        }
+        TankBehind x = new TankBehind();
+        x.kind(0, 1, 1, 1);
+        x.person(0);
+        x.test(0, 0, 5, true);
+        x.clock(598);
+        x.reads(0, 0);
+        Expect.tell(x, "crash 0 5", 599);
+        Expect.due("must from 599 on", x.knewFails(0, 0, 0), -1);
+        Expect.due("knew by 597", x.knew(0, 0, 0, 597, 0), -1);
+        Expect.due("knew by 598", x.knew(0, 0, 0, 598, 0), 5);
+        x.clock(599);
+        Expect.due("in the last month", x.knewFails(0, 0, 0), 599);
+        for (int n : new int[] {-1, 60, Integer.MIN_VALUE, Integer.MAX_VALUE}) {
+            Expect.due("person " + n, x.knewFails(n, 0, 0), -2);
+            Expect.due("kind " + n, x.knewFails(0, n, 0), -2);
+            Expect.due("sort " + n, x.knewFails(0, 0, n), -2);
+            Expect.due("knew of person " + n, x.knew(n, 0, 0, 0, 0), -2);
+            Expect.due("knew of kind " + n, x.knew(0, n, 0, 0, 0), -2);
+            Expect.due("knew of sort " + n, x.knew(0, 0, n, 0, 0), -2);
+            Expect.due("knew, what " + n, x.knew(0, 0, 0, 0, n), -2);
+            Expect.due("odd(" + n + ")", x.odd(n), -1);
+        }
+    }
+
     private static void knewFailsMonthByMonth() {
         TankBehind x = new TankBehind();
         x.kind(0, 1, 1, 1);
@@ -221,6 +269,25 @@ public final class TestsAndCrashesTest {
         Expect.due("a crash too many", x.crash(0, 9, 0, 1, 0, true, true), -1);
         Expect.due("crashes", x.count(7), 200);
         Expect.due("not wrecked by it", x.cars(0, 2), 0);
+    }
+
+    private static void crashesAtTheEdges() {
+        TankBehind x = new TankBehind();
+        x.kind(0, 0, 0, 0);
+        x.person(0);
+        x.clock(599);
+        x.car(0, 0, 0);
+        Expect.due("in month 0, at 0, none dead", x.crash(0, 0, 0, 0, 0, false, false), 0);
+        Expect.due("odd at 0", x.odd(0), 0);
+        Expect.due("in month 599, at 200, nine dead", x.crash(0, 599, 2, 200, 9, true, false), 1);
+        Expect.due("odd at 200", x.odd(1), 0);
+        Expect.due("ahead of that", x.crash(0, 598, 2, 200, 9, true, false), -1);
+        Expect.due("in that month again", x.crash(0, 599, 1, 1, 1, false, true), 2);
+        Expect.due("odd at 1", x.odd(2), 1);
+        Expect.due("a wreck", x.crash(0, 599, 1, 1, 1, false, true), -1);
+        Expect.due("car 300", x.crash(300, 599, 1, 1, 1, false, true), -1);
+        Expect.due("crash 3", x.odd(3), -1);
+        Expect.due("known in 599", x.expected(0, 599, 1), 1);
     }
 
     private static void crashesOfACar() {
