@@ -80,7 +80,7 @@ public final class MemosAndStepsTest {
             Expect.due("turn of memo " + memo, x.turnsAt(memo, 0, 1), 7);
             Expect.due("turn of its last row", x.turnsAt(memo, 5, 1), 8);
             Expect.due("a row too many", x.row(memo, true, 1, 1), -1);
-            Expect.due("beside the next", memo == 19 ? 57 : x.beside(memo, memo + 1, 63), memo == 19 ? 57 : 3 * (memo + 1));
+            Expect.due("beside another", x.beside(memo, (memo + 1) % 20, 63), 3 * (memo + 1));
             Expect.due("row 6", x.turnsAt(memo, 6, 0), -2);
         }
     }

@@ -14,16 +14,18 @@ import java.util.regex.Pattern;
  * as can be, at times just beside what can be; each answer is the model's.
  */
 public final class ModelTest {
-    private static final int RUNS = 1800;
+    private static final int RUNS = 1200;
     private static final int CALLS = 512;
 
     private static final List<List<String>> THEMES = List.of(
-        List.of("person", "kind", "part", "fit", "car", "car", "sell", "sell", "owner", "owner", "cars", "burns", "clock",
-            "factor", "force"),
+        List.of("person", "kind", "part", "fit", "car", "car", "sell", "sell", "owner", "owner", "cars", "burns",
+            "clock", "factor", "force"),
         List.of("kind", "car", "crash", "rule", "must", "must", "fails", "owed", "inForce", "clock", "fit", "part"),
-        List.of("person", "kind", "test", "test", "reads", "reads", "knew", "knew", "knewFails", "clock", "rule", "must"),
+        List.of("person", "kind", "test", "test", "reads", "reads", "knew", "knew", "knewFails", "clock", "rule",
+            "must"),
         List.of("person", "kind", "car", "crash", "crash", "crash", "odd", "expected", "expected", "clock"),
-        List.of("kind", "car", "crash", "crash", "jury", "jury", "part", "test", "reads", "rule", "fit", "clock", "mend"),
+        List.of("kind", "car", "crash", "crash", "jury", "jury", "part", "test", "reads", "rule", "fit", "clock",
+            "mend"),
         List.of("memo", "row", "row", "row", "row", "memoSum", "turnsAt", "turnsAt", "beside"),
         List.of("step", "steps", "steps", "putOff", "change", "cheap"),
         List.of("car", "car", "sell", "call", "letters", "letters", "reached", "mend", "mend", "left", "moves", "clock",
@@ -183,7 +185,8 @@ public final class ModelTest {
             case "car":
                 return beside(0, model.count(4) - 1);
             case "part":
-                return call.equals("expected") ? beside(0, 3) : beside(call.equals("burns") ? -1 : 0, model.count(3) - 1);
+                return call.equals("expected") ? beside(0, 3)
+                    : beside(call.equals("burns") ? -1 : 0, model.count(3) - 1);
             case "test":
                 return beside(0, model.count(6) - 1);
             case "crash":

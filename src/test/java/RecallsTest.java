@@ -201,7 +201,8 @@ public final class RecallsTest {
         for (int made : new int[] {0, 1, 2, 598, 599}) {
             x.car(0, made, 0);
         }
-        int[][] months = {{0, 0, 1}, {0, 1, 2}, {1, 1, 1}, {1, 598, 3}, {2, 599, 3}, {599, 599, 1}, {0, 599, 5}, {3, 597, 0}};
+        int[][] months =
+            {{0, 0, 1}, {0, 1, 2}, {1, 1, 1}, {1, 598, 3}, {2, 599, 3}, {599, 599, 1}, {0, 599, 5}, {3, 597, 0}};
         for (int call = 0; call < months.length; call++) {
             String name = "call from " + months[call][0] + " to " + months[call][1];
             Expect.due(name, x.call(0, months[call][0], months[call][1], 0), call);

@@ -229,6 +229,15 @@ public final class RulesTest {
         Expect.due("with another factor", x.fails(0, 0, 3), 0);
         x.factor(0, 102);
         Expect.due("with a greater factor", x.fails(0, 0, 3), 1);
+        x.person(0);
+        x.part(1, 9999, 0, 0);
+        x.clock(4);
+        x.car(0, 4, 0);
+        x.call(0, 0, 599, 1);
+        x.letters(0);
+        x.mend(0, 0);
+        Expect.due("the car mended does not burn", x.burns(0, 4, 0, 11, -1), 0);
+        Expect.due("a car of its kind and month does, unmended", x.fails(0, 0, 4), 1);
     }
 
     private static void owed() {
@@ -452,10 +461,12 @@ public final class RulesTest {
         refused(repeat("give 1;", 12) + "give ?", 84, 4);
     }
 
-    private static final String VALUES = "month kind firm made cars fires deaths dead speed sort knew part 7 00000 99999";
+    private static final String VALUES =
+        "month kind firm made cars fires deaths dead speed sort knew part 7 00000 99999";
     private static final String THINGS = "crash give most recall";
     private static final String SIGNS = "+ - * < <= = >= > ( ) [ ] ; if or and not";
-    private static final String OTHERS = "foo months mont i an o no recal gives crashes == => << ! # , . : / \\ { } A Z month1 $";
+    private static final String OTHERS =
+        "foo months mont i an o no recal gives crashes == => << ! # , . : / \\ { } A Z month1 $";
 
     /** Behind each of these every piece of the language is put, and every byte: only those named may stand there. */
     private static void whatMayStand() {
@@ -530,7 +541,8 @@ public final class RulesTest {
         } else if (answer < 0) {
             // A number may stand after crash and be no sort; all else is at fault behind the piece.
             boolean noSort = before.equals("crash") && answer == Expect.fault(place, 1);
-            Expect.due("rule \"" + text + "\" is not at fault there", noSort || answer <= Expect.fault(place + 1, 0), true);
+            boolean behind = answer <= Expect.fault(place + 1, 0);
+            Expect.due("rule \"" + text + "\" is not at fault there", noSort || behind, true);
         }
     }
 
